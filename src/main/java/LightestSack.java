@@ -311,7 +311,8 @@ public final class LightestSack {
         needWhat(what, 1);
         run.go();
         int place = 0;
-        while (place < guess.size && place < run.pieces && guess.at(place) == run.begins.at(place)) {
+        while (place < guess.size && place < run.pieces
+                && guess.at(place) == run.begins.at(place)) {
             place++;
         }
         if (place == guess.size && place == run.pieces) {
@@ -1020,7 +1021,9 @@ public final class LightestSack {
         }
 
         void expect(String word) {
-            if (!takes(word)) {
+            if (spells(word)) {
+                advance();
+            } else {
                 fail(OUT_OF_PLACE);
             }
         }
@@ -1084,7 +1087,7 @@ public final class LightestSack {
         }
     }
 
-    /** Reads the texts of THE MILL and of THE LAW into a mill that is taken only without a FAULT. */
+    /** Reads both texts into a mill that is taken only if there was no FAULT. */
     private static final class Texts {
         private final Reader reader;
         private final Mill mill;
@@ -1604,7 +1607,7 @@ public final class LightestSack {
             }
         }
 
-        /** From the greatest first piece down, then the second; none is heavier than the one ahead. */
+        /** From the greatest first piece down, then the second, as like ones are chosen. */
         private boolean findsNextWay(int k) {
             int behind = way.at(k - 1) + 1;
             for (int i = k - 2; i >= 0; i--) {
