@@ -255,7 +255,7 @@ public final class LightestSack {
             case 0:
                 return run.allWaits();
             case 1:
-                return run.price();
+                return run.costOfAll();
             case 2:
                 return run.lateSacks();
             case 3:
@@ -324,7 +324,7 @@ public final class LightestSack {
     // ---- orders
 
     public int cost(int tray) throws NoSuchElementException, IllegalStateException {
-        return tellsAnOrder(needFullTray(tray)) ? priceOfTold() : NONE;
+        return tellsAnOrder(needFullTray(tray)) ? costOfTold() : NONE;
     }
 
     public int swap(int tray, int k)
@@ -336,11 +336,11 @@ public final class LightestSack {
         if (!tellsAnOrder(row)) {
             return 0;
         }
-        int price = priceOfTold();
+        int cost = costOfTold();
         int moved = told.at(k);
         told.put(k, told.at(k + 1));
         told.put(k + 1, moved);
-        return priceOfTold() - price;
+        return costOfTold() - cost;
     }
 
     public int best(int k) {
@@ -363,12 +363,12 @@ public final class LightestSack {
         }
         search.seek();
         run.go();
-        return run.price() - search.least;
+        return run.costOfAll() - search.least;
     }
 
-    private int priceOfTold() {
+    private int costOfTold() {
         run.follow(told);
-        return run.price();
+        return run.costOfAll();
     }
 
     /** Whether a tray is an ORDER of all PIECES, which stands in the row told then. */
@@ -528,7 +528,7 @@ public final class LightestSack {
         trial.setWhole(t, into + n);
         trialRun.go();
         run.go();
-        return trialRun.price() - run.price();
+        return trialRun.costOfAll() - run.costOfAll();
     }
 
     public int by(int key) throws IllegalArgumentException {
@@ -536,7 +536,7 @@ public final class LightestSack {
             throw new IllegalArgumentException("no such key");
         }
         runByOne(key);
-        return trialRun.price();
+        return trialRun.costOfAll();
     }
 
     public int bestLaw() {
@@ -544,9 +544,9 @@ public final class LightestSack {
         int least = Integer.MAX_VALUE;
         for (int key = 0; key < KEY_KINDS; key++) {
             runByOne(key);
-            if (trialRun.price() < least) {
+            if (trialRun.costOfAll() < least) {
                 found = key;
-                least = trialRun.price();
+                least = trialRun.costOfAll();
             }
         }
         return found;
@@ -867,13 +867,9 @@ public final class LightestSack {
             }
         }
 
-        /** Puts the sack that comes behind all others; addSack closes it. */
-        void tellNext(int person, int come) {
+        void addSack(int weight, int person, int come, int sort, int worth, int home) {
             persons.put(sacks, person);
             comes.put(sacks, come);
-        }
-
-        void addSack(int weight, int sort, int worth, int home) {
             sorts.put(sacks, sort);
             worths.put(sacks, worth);
             homes.put(sacks, home);
@@ -933,8 +929,8 @@ public final class LightestSack {
                 x = nextDraw(x);
                 if ((x >>> 16) % 100 < come && pieces() < MOST_PIECES) {
                     x = nextDraw(x);
-                    tellNext(STRANGER, minute);
-                    addSack((greatest > 0 ? (x >>> 16) % greatest : 0) + 1, 0, 1, NONE);
+                    int weight = greatest > 0 ? (x >>> 16) % greatest + 1 : 1;
+                    addSack(weight, STRANGER, minute, 0, 1, NONE);
                 }
             }
         }
@@ -1153,8 +1149,7 @@ public final class LightestSack {
             int sort = reader.takes("sort") ? reader.number(0, 3) : 0;
             int worth = reader.takes("worth") ? reader.number(1, 9) : 1;
             int home = reader.takes("home") ? reader.number(0, NEVER_HOME - 1) : NONE;
-            mill.tellNext(person, come);
-            mill.addSack(pounds, sort, worth, home);
+            mill.addSack(pounds, person, come, sort, worth, home);
         }
 
         private void readRule() {
@@ -1385,13 +1380,12 @@ public final class LightestSack {
             return ends.at(s) > mill.homes.at(s) && mill.homes.at(s) != NONE;
         }
 
-        /** COST of what was run. */
-        int price() {
-            int price = 0;
+        int costOfAll() {
+            int cost = 0;
             for (int s = 0; s < mill.sacks; s++) {
-                price += mill.worths.at(s) * waitOf(s);
+                cost += mill.worths.at(s) * waitOf(s);
             }
-            return price;
+            return cost;
         }
 
         int allWaits() {
@@ -1474,7 +1468,7 @@ public final class LightestSack {
         // Behind so many pieces: the minute, the sort that was ground last, the cost so far.
         private final Row minutes = new Row(MOST_ORDERED + 1);
         private final Row lastSorts = new Row(MOST_ORDERED + 1);
-        private final Row prices = new Row(MOST_ORDERED + 1);
+        private final Row costs = new Row(MOST_ORDERED + 1);
         private final Row first = new Row(MOST_ORDERED);
         private int least;
 
@@ -1492,17 +1486,17 @@ public final class LightestSack {
             }
             minutes.put(0, 0);
             lastSorts.put(0, NONE);
-            prices.put(0, 0);
+            costs.put(0, 0);
             least = Integer.MAX_VALUE;
             extend(this, 0);
         }
 
         private static void extend(Search search, int depth) {
-            if (depth > MOST_ORDERED || search.prices.at(depth) >= search.least) {
+            if (depth > MOST_ORDERED || search.costs.at(depth) >= search.least) {
                 return;
             }
             if (depth == search.run.pieces) {
-                search.least = search.prices.at(depth);
+                search.least = search.costs.at(depth);
                 search.first.copyOf(search.path);
                 return;
             }
@@ -1529,7 +1523,7 @@ public final class LightestSack {
             minutes.put(depth + 1, end);
             lastSorts.put(depth + 1, sort);
             int more = left.at(s) == 0 ? mill.worths.at(s) * (end - come) : 0;
-            prices.put(depth + 1, prices.at(depth) + more);
+            costs.put(depth + 1, costs.at(depth) + more);
         }
 
         private void takeBack(int p) {

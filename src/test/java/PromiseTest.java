@@ -327,6 +327,14 @@ public final class PromiseTest {
         Check.mill(x, "clean 1;fee 2;sack 9 of 0 at 1;sack 7 of 1 at 1 sort 1;");
         CHECK.due("no end in 10 rounds", x.settle(3), -2);
         CHECK.due("nothing is parted", x.count(5), 2);
+        LightestSack y = Check.with("stone 1;clean 4;fee 5;sack 11 of 2 at 4 worth 3;sack 11 of 0 at 3 worth 3;"
+                + "sack 5 of 2 at 3 sort 2 worth 2;", "by same;by same;by light;");
+        CHECK.due("an end in the tenth round", y.settle(2), 10);
+        LightestSack z = Check.with("stone 3;stone 2;clean 5;fee 4;sack 14 of 0 at 3 sort 2 worth 2;"
+                + "sack 7 of 2 at 0 sort 1 worth 2;sack 8 of 0 at 0 sort 1 worth 2;"
+                + "sack 3 of 2 at 5 worth 4;", "by light;by early;");
+        CHECK.due("an end in the eleventh were too late", z.settle(3), -2);
+        CHECK.due("all are whole still", z.whole(), 0);
     }
 
     private static void fees() {
@@ -353,6 +361,14 @@ public final class PromiseTest {
         CHECK.due("never late", x.when(0, 0), 600);
         CHECK.due("first with the least wait", x.when(1, 1), 3);
         CHECK.due("it comes as before", x.sack(1, 2), 20);
+        Check.mill(x, "sack 5 of 0 at 9 home 5;");
+        CHECK.due("in time at 0 alone", x.when(0, 0), 0);
+        CHECK.due("the first minute", x.when(0, 1), 0);
+        Check.mill(x, "sack 5 of 0 at 9 home 605;");
+        CHECK.due("in time up to 600", x.when(0, 0), 600);
+        Check.mill(x, "sack 5 of 0 at 9 home 604;");
+        CHECK.due("in time up to 599", x.when(0, 0), 599);
+        Check.mill(x, many(3, "sack 5 of 0 at 9;"));
         CHECK.dueThrow("when(3, 2)", NO_SUCH, () -> x.when(3, 2));
         CHECK.dueThrow("when(0, 2)", ARGUMENT, () -> x.when(0, 2));
         CHECK.dueThrow("when(0, -1)", ARGUMENT, () -> x.when(0, -1));
@@ -395,6 +411,7 @@ public final class PromiseTest {
         CHECK.due("the best", x.bestLaw(), 4);
         CHECK.due("the law stays", x.ahead(0, 1), 0);
         CHECK.dueThrow("by(-1)", ARGUMENT, () -> x.by(-1));
+        CHECK.dueThrow("by(8)", ARGUMENT, () -> x.by(8));
         Check.lay(x, 0, 1, 0);
         CHECK.due("fits", x.fits(0), 1 << 4);
         Check.lay(x, 0, 0, 1);

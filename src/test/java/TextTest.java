@@ -67,6 +67,9 @@ public final class TextTest {
         CHECK.due("the later clean", x.count(2), 60);
         CHECK.due("the later fee", x.count(3), 99);
         CHECK.due("sacks are gone", x.count(4), 0);
+        CHECK.due("a mill of a sack", Check.mill(x, "sack 5 of 0 at 0;"), 1);
+        CHECK.due("no clean without its line", x.count(2), 0);
+        CHECK.due("no fee without its line", x.count(3), 0);
         CHECK.due("one stone without any", x.count(1), 1);
         CHECK.due("blanks", Check.mill(x, " \n stone5\n;  sack007of 0at 3home9; \n"), 2);
         CHECK.due("blanks: pounds", x.sack(0, 0), 7);
@@ -125,6 +128,13 @@ public final class TextTest {
         dueFault(false, "stone;", 2, 5);
         dueFault(false, "stones 1;", 2, 0);
         dueFault(false, "Stone 1;", 1, 0);
+        dueFault(false, "stone 1;zz", 2, 8);
+        dueFault(false, "stone 1;stonez 1;", 2, 8);
+        dueFault(false, "stone{1;", 1, 5);
+        dueFault(false, "stone`1;", 1, 5);
+        dueFault(false, "stone/1;", 1, 5);
+        dueFault(false, "stone:1;", 1, 5);
+        dueFault(false, "stone 1<", 1, 7);
         dueFault(false, "stonE 1;", 2, 0);
         dueFault(false, "stone\t1;", 1, 5);
         dueFault(false, "stone 1234;", 1, 6);
