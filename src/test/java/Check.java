@@ -88,4 +88,10 @@ final class Check {
             x.write(tray, i, numbers[i]);
         }
     }
+
+    /** Parts a sack by a tray laid with these numbers; answers how many pieces there are then. */
+    static int part(LightestSack x, int s, int tray, int... numbers) {
+        lay(x, tray, numbers);
+        return x.part(s, tray);
+    }
 }
