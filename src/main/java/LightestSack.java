@@ -36,6 +36,8 @@ public final class LightestSack {
     private static final int KEY_KINDS = 8;
     /** Later than every time at which a sack may have to be home. */
     private static final int NEVER_HOME = 1000;
+    /** More than every cost, wait and minute that may come. */
+    private static final int MORE_THAN_ANY = 1000000000;
 
     private static final int NO_TOKEN = 1;
     private static final int OUT_OF_PLACE = 2;
@@ -541,7 +543,7 @@ public final class LightestSack {
 
     public int bestLaw() {
         int found = 0;
-        int least = Integer.MAX_VALUE;
+        int least = MORE_THAN_ANY;
         for (int key = 0; key < KEY_KINDS; key++) {
             runByOne(key);
             if (trialRun.costOfAll() < least) {
@@ -1288,7 +1290,7 @@ public final class LightestSack {
         }
 
         private int firstComing() {
-            int first = Integer.MAX_VALUE;
+            int first = MORE_THAN_ANY;
             for (int p = 0; p < pieces; p++) {
                 if (taken.at(p) == NONE) {
                     first = Math.min(first, comeOf(p));
@@ -1487,7 +1489,7 @@ public final class LightestSack {
             minutes.put(0, 0);
             lastSorts.put(0, NONE);
             costs.put(0, 0);
-            least = Integer.MAX_VALUE;
+            least = MORE_THAN_ANY;
             extend(this, 0);
         }
 
@@ -1556,7 +1558,7 @@ public final class LightestSack {
             most = Math.min(n, Math.min(trial.pounds.at(s), room));
             parts = 0;
             for (int k = 1; k <= most; k++) {
-                leastWaits.put(k, Integer.MAX_VALUE);
+                leastWaits.put(k, MORE_THAN_ANY);
                 boolean more = true;
                 startWays(trial.pounds.at(s), k);
                 for (int i = 0; i < WAYS_BOUND && more; i++) {

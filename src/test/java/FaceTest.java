@@ -13,7 +13,7 @@ import java.util.List;
 public final class FaceTest {
     private static final Check CHECK = new Check("FaceTest");
     private static final String[] FORBIDDEN = {"->", "::", "catch", "finally", "synchronized", "assert",
-        "instanceof", "Exact(", "System.", "Thread", "Random", "java.io", "java.nio", "extends",
+        "instanceof", "Exact(", "Integer.", "Long.", "System.", "Thread", "Random", "java.io", "java.nio", "extends",
         "@", "\" +", "+ \"", "transient", "volatile", "native", "toString", "hashCode"};
 
     public static void main(String[] args) throws IOException {

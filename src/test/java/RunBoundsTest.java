@@ -281,6 +281,11 @@ public final class RunBoundsTest {
         for (int person = 1; person < 7; person++) {
             CHECK.due("none of " + person, x.home(person), -1);
         }
+        CHECK.due("all is done", x.total(3), 10);
+        Check.law(x, "by light;");
+        CHECK.due("the last told is the last done", x.total(3), 10);
+        Check.mill(x, "sack 9 of 0 at 0;sack 1 of 0 at 0;");
+        CHECK.due("the first told is the last done", x.total(3), 10);
     }
 
     private static void longest() {

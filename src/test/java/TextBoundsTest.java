@@ -219,8 +219,28 @@ public final class TextBoundsTest {
             faulty(true, key + ";", 2, 0);
             faulty(true, "by " + key.toUpperCase() + ";", 1, 3);
         }
+        for (String line : new String[] {"stone 1;", "clean 1;", "fee 1;",
+            "sack 1 of 0 at 0 sort 1 worth 1 home 1;"}) {
+            oneLetterElse(false, line);
+        }
+        for (String key : KEYS) {
+            oneLetterElse(true, "by " + key + " then " + key + ";");
+        }
+        oneLetterElse(true, "small 1;");
         faulty(false, "FEE 1;", 1, 0);
         faulty(false, "fEE 1;", 2, 0);
+    }
+
+    /** Another letter at each place of each word: the word can't stand there. */
+    private static void oneLetterElse(boolean law, String line) {
+        int word = 0;
+        for (int i = 0; i < line.length(); i++) {
+            if (line.charAt(i) >= 'a' && line.charAt(i) <= 'z') {
+                faulty(law, line.substring(0, i) + 'z' + line.substring(i + 1), 2, word);
+            } else {
+                word = i + 1;
+            }
+        }
     }
 
     /** Of a good line each token is left out, or put twice. */

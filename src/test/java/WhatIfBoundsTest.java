@@ -252,6 +252,12 @@ public final class WhatIfBoundsTest {
         Check.part(x, 0, 0, 1, 1, 1);
         CHECK.due("all sacks being whole", x.fee(2), 1);
         CHECK.due("they stay parted", x.count(5), 4);
+        // Sack 1 goes first: whole it leaves sack 0 a gain of 1, in two it would leave one of 3.
+        Check.mill(x, "stone 1;stone 1;sack 6 of 0 at 0;sack 4 of 0 at 0 home 0;");
+        Check.law(x, "by due;");
+        Check.part(x, 1, 0, 2, 2);
+        CHECK.due("the others being whole, too", x.fee(2), 2);
+        Check.law(x, "by light;");
         // In two the slow stone gets the heavier one; three pieces gain 3 by two fees.
         Check.mill(x, "stone 1;stone 2;sack 9 of 0 at 0;");
         CHECK.due("no gain in two", x.fee(2), 0);
@@ -350,6 +356,14 @@ public final class WhatIfBoundsTest {
         Check.law(x, "small 9;");
         CHECK.due("same is the best", x.bestLaw(), 7);
         CHECK.due("the law has no keys still", x.count(6), 0);
+        // By the lesser number alone it would be 39, which none of the keys brings.
+        Check.mill(x, "sack 6 of 0 at 0 sort 1;sack 2 of 0 at 5 worth 2 home 2;"
+                + "sack 3 of 1 at 0 sort 1 home 1;sack 9 of 1 at 4 sort 1;");
+        Check.law(x, "");
+        CHECK.due("without keys", x.total(1), 39);
+        CHECK.due("by light", x.by(0), 40);
+        CHECK.due("by same", x.by(7), 59);
+        CHECK.due("of the eight keys", x.bestLaw(), 0);
         Check.mill(x, "");
         CHECK.due("no sacks", x.bestLaw(), 0);
         CHECK.due("no sacks: cost", x.by(7), 0);
@@ -470,6 +484,8 @@ public final class WhatIfBoundsTest {
         Check.law(x, "by dear;");
         Check.mill(x, "sack 99 of 0 at 0 worth 1;");
         CHECK.due("of worth 1", x.day(0, 1, 100, 1), 59 + 99);
+        Check.mill(x, "sack 1 of 0 at 0;sack 1 of 0 at 0;");
+        CHECK.due("of no more worth", x.day(1, 1, 100, 1), 2);
         Check.law(x, "by same;");
         Check.mill(x, "clean 60;sack 1 of 0 at 0;sack 1 of 0 at 0 sort 1;");
         CHECK.due("of sort 0", x.day(1, 1, 100, 1), 1 + 58 + 60 + 1);
